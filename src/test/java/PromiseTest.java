@@ -26,6 +26,7 @@ public final class PromiseTest {
     promise13Worth();
     promise14Days();
     promise15Loose();
+    promise15Draws();
     promise16Seed();
     promise17Free();
     promise18Of();
@@ -497,6 +498,37 @@ public final class PromiseTest {
     is("15 it came on that DAY", 7, full.lineIs(1, 4));
   }
 
+  /** What z is after so many draws more. */
+  private static int zAfter(int from, int draws) {
+    z = from;
+    for (int i = 0; i < draws; i++) {
+      draw();
+    }
+    return z;
+  }
+
+  private static void promise15Draws() {
+    BoardKeep taken = new BoardKeep();
+    taken.write(0, 12, 0, 0);
+    is("15 may not go", 0, taken.loose(1));
+    is("15 two draws if none is FREE", zAfter(1, 2), taken.count(7));
+    is("15 no LINE more", 1, taken.count(0));
+    taken.loose(6);
+    is("15 two draws each", zAfter(1, 14), taken.count(7));
+    is("15 wiped", 1, taken.loose(1));
+    is("15 four draws", zAfter(1, 18), taken.count(7));
+    BoardKeep empty = new BoardKeep();
+    empty.loose(1);
+    is("15 three draws without LINES", zAfter(1, 3), empty.count(7));
+    BoardKeep full = new BoardKeep();
+    for (int i = 0; i < 10; i++) {
+      full.write(41, 100 * i + 1, 0, 1);
+    }
+    full.loose(30);
+    is("15 two draws if ten are there", zAfter(1, 60), full.count(7));
+    is("15 ten", 10, full.count(0));
+  }
+
   private static void promise16Seed() {
     BoardKeep keep = new BoardKeep();
     is("16 was 1", 1, keep.seed(MIN));
@@ -541,6 +573,8 @@ public final class PromiseTest {
     keep.write(20, 3, 2, 0);
     keep.write(20, 402, 2, 0);
     keep.write(20, 1101, 1, 0);
+    is("18 the first of the PEOPLE", 0, keep.of(0));
+    is("18 the last of the PEOPLE", 0, keep.of(5));
     is("18 both", 5, keep.of(2));
     is("18 other", 1, keep.of(1));
     keep.days(1);
@@ -705,6 +739,8 @@ public final class PromiseTest {
     full.sheet(1, 16, 2);
     full.sheet(1, 0, 0);
     is("22 missing again", Due.NONE, full.parts(1));
+    full.sheet(3, 8, 0);
+    is("22 the last SHEET", 0, full.parts(3));
   }
 
   private static void promise23Odds() {
@@ -920,6 +956,17 @@ public final class PromiseTest {
     is("28 not of 32", 0, keep.judge(0));
     keep.put(0, 0, 55);
     is("28 of 32", 1, keep.judge(0));
+    keep.days(90);
+    keep.days(90);
+    keep.days(90);
+    keep.sheet(0, 8, 1);
+    keep.put(0, 0, 127);
+    is("28 127 is 127 in 8 bits", 1, keep.dates(0));
+    keep.put(0, 0, 200);
+    is("28 200 is below 0 in 8 bits, as in Java", 0, keep.dates(0));
+    keep.sheet(0, 16, 1);
+    keep.put(0, 0, 200);
+    is("28 200 is 200 in 16 bits", 1, keep.dates(0));
   }
 
   private static void promise29Move() {
@@ -991,6 +1038,8 @@ public final class PromiseTest {
     datedAre(keep, 2, 0, 3);
     keep.sheet(0, 8, 2);
     is("30 all of them", 2, keep.dates(0));
+    keep.sheet(3, 8, 0);
+    is("30 the last SHEET", 0, keep.dates(3));
     is("30 no error but those", 2, keep.told(1));
     is("30 nor NONE", 1, keep.told(2));
   }
@@ -1015,6 +1064,8 @@ public final class PromiseTest {
     keep.put(0, 1, 70);
     keep.days(1);
     is("31 now", 2, keep.judge(0));
+    keep.sheet(3, 8, 0);
+    is("31 the last SHEET", 0, keep.judge(3));
   }
 
   private static void promise32Image() {
@@ -1080,6 +1131,9 @@ public final class PromiseTest {
     is("33 it stays", 3, keep.restore());
     is("33 pen again", 7, keep.pen(4, 8));
     is("33 no TEXT again", 0, keep.untell(1));
+    Due.text(keep, 0, "b-m");
+    keep.restore();
+    is("33 the TEXT of then", 14, keep.law(0, 9, 5, 0));
   }
 
   private static void promise34Tell() {
