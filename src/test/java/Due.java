@@ -24,6 +24,14 @@ final class Due {
     }
   }
 
+  int asked() {
+    return asked;
+  }
+
+  int wrong() {
+    return wrong;
+  }
+
   /** Ends the program, with 1 if an answer was wrong. */
   void end() {
     System.out.println(test + ": " + asked + " answers, " + wrong + " not as due");
