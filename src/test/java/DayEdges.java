@@ -105,6 +105,16 @@ final class DayEdges {
     Edge.is("too early", 0, early.loose(1));
     Edge.is("stays", 0, early.lineIs(0, 6));
     Edge.is("nothing LOST", 0, early.count(3));
+    for (int line = 0; line < 2; line++) {
+      BoardKeep two = Edge.lines(20, 0);
+      two.days(1);
+      two.seed(seed(1, 2, line, 2, 12, 0));
+      Edge.is("the first MAY, the second not: LINE " + line, line == 0 ? 1 : 0, two.loose(1));
+      BoardKeep turned = Edge.lines(0, 20);
+      turned.days(1);
+      turned.seed(seed(1, 2, line, 2, 12, 0));
+      Edge.is("the second MAY, the first not: LINE " + line, line == 0 ? 0 : 1, turned.loose(1));
+    }
     BoardKeep ripe = Edge.aged(0, 7);
     Edge.is("just so", 1, ripe.loose(1));
     Edge.is("GONE", 1, ripe.lineIs(0, 6));
@@ -208,6 +218,16 @@ final class DayEdges {
       below += next(z) < 0 ? 1 : 0;
     }
     Edge.is("some z are below 0", 1, below > 2 ? 1 : 0);
+    for (int lowest : new int[] {0, 255}) {
+      int z = 0;
+      while ((next(z) & 255) != lowest) {
+        z++;
+      }
+      BoardKeep keep = new BoardKeep();
+      keep.seed(z);
+      keep.loose(1);
+      Edge.is("the lowest eight bits, " + lowest + ", don't count", 1 << drawn(z, 1, 12), keep.lineIs(0, 2));
+    }
   }
 
   // ---- promise 14

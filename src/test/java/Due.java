@@ -16,6 +16,21 @@ final class Due {
     this.test = test;
   }
 
+  /** As no call may fail to end, a test that goes on for minutes is wrong, and is ended. */
+  void watch() {
+    Thread watching = new Thread(() -> {
+      try {
+        Thread.sleep(300_000);
+      } catch (InterruptedException interrupted) {
+        return;
+      }
+      System.out.println(test + ": a call doesn't end");
+      Runtime.getRuntime().halt(1);
+    });
+    watching.setDaemon(true);
+    watching.start();
+  }
+
   void is(String what, long want, long got) {
     asked++;
     if (got != want) {

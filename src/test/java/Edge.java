@@ -64,8 +64,9 @@ final class Edge {
   }
 
   static void toDay(BoardKeep keep, int day) {
-    for (int now = keep.count(1); now < day; now = keep.count(1)) {
-      keep.days(Math.min(90, day - now));
+    for (int now = keep.count(1); now >= 0 && now < day;) {
+      int then = keep.days(Math.min(90, day - now));
+      now = then > now ? then : day;
     }
   }
 

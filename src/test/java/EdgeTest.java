@@ -25,6 +25,7 @@ public final class EdgeTest {
   private static final Pattern HEADINGS = Pattern.compile("^\\d\\. |^[\\w ]+ `[^`]+`:|\\bUSES:|\\bBODIES:");
 
   public static void main(String[] args) throws IOException {
+    Edge.begin().watch();
     run(Path.of("../shared/DOC.md")).end();
   }
 

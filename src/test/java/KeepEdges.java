@@ -96,6 +96,94 @@ final class KeepEdges {
     Edge.is("what waits", 0, keep.check());
   }
 
+  @Says(at = "P33", text = "All is as the IMAGE has it")
+  static void restoreOverMore() {
+    BoardKeep keep = Edge.lines(20, 20, 0);
+    keep.days(1);
+    keep.wipe(0);
+    Due.text(keep, 0, "b+m+1");
+    Due.feed(keep, "12");
+    keep.tell(40);
+    keep.image();
+    keep.wipe(1);
+    keep.write(0, 1, 0, 0);
+    Due.feed(keep, "345678901");
+    keep.tell(41);
+    keep.tell(42);
+    keep.restore();
+    Edge.is("bytes, with more of them on THE TAPE", 2, keep.count(4));
+    Edge.is("numbers, with more that wait", 1, keep.count(5));
+    Edge.is("LINES, with more of them", 3, keep.count(0));
+    Edge.is("GONE, as it was then", 1, keep.lineIs(0, 6));
+    Edge.is("not GONE, as it was then", 0, keep.lineIs(1, 6));
+    Edge.is("COLUMNS", 6, keep.free(0));
+    Edge.is("LOST", 22, keep.count(3));
+    keep.text(1);
+    Due.text(keep, 0, "b*m");
+    keep.restore();
+    Edge.is("a TEXT, with another in its place", 8, keep.law(0, 5, 2, 0));
+    Edge.is("no TEXT, with one there", 50, keep.law(1, 5, 2, 0));
+    Edge.is("THE TAPE, with none there", 2, keep.count(4));
+    keep.check();
+    keep.restore();
+    Edge.is("numbers, with none that wait", 1, keep.count(5));
+  }
+
+  @Says(at = "P33", text = "All is as the IMAGE has it")
+  static void restoreEachPen() {
+    BoardKeep keep = new BoardKeep();
+    for (int pen = 0; pen < 5; pen++) {
+      keep.pen(pen, 10 + pen);
+    }
+    keep.image();
+    for (int pen = 0; pen < 5; pen++) {
+      keep.pen(pen, 90 + pen);
+    }
+    keep.restore();
+    for (int pen = 0; pen < 5; pen++) {
+      Edge.is("INK of " + pen, 10 + pen, Edge.ink(keep, pen));
+    }
+  }
+
+  @Says(at = "P33", text = "All is as the IMAGE has it")
+  static void restoreEachLine() {
+    BoardKeep keep = Edge.lines(0, 11, 22, 33, 44, 55, 66, 7, 18, 29);
+    keep.image();
+    for (int line = 0; line < 10; line++) {
+      keep.photo(line, 1);
+      keep.become(line, 69);
+    }
+    keep.restore();
+    int[] kinds = {0, 1, 2, 3, 4, 5, 6, 0, 1, 2};
+    for (int line = 0; line < 10; line++) {
+      Edge.is("KIND of " + line, kinds[line], keep.lineIs(line, 0));
+      Edge.is("m of " + line, line, keep.lineIs(line, 1));
+      Edge.is("COLUMN of " + line, 1 << line, keep.lineIs(line, 2));
+      Edge.is("PHOTO of " + line, 0, keep.lineIs(line, 5));
+    }
+  }
+
+  @Says(at = "P33", text = "All is as the IMAGE has it")
+  static void restoreFewerAndMore() {
+    BoardKeep keep = new BoardKeep();
+    keep.image();
+    keep.write(20, 1, 0, 0);
+    keep.photo(0, 1);
+    keep.days(1);
+    keep.wipe(0);
+    keep.restore();
+    Edge.is("no LINES", 0, keep.count(0));
+    keep.write(0, 1, 0, 0);
+    Edge.is("a new one is without a PHOTO", 0, keep.lineIs(0, 5));
+    Edge.is("and isn't GONE", 0, keep.lineIs(0, 6));
+    keep.image();
+    keep.write(0, 101, 0, 0);
+    keep.image();
+    keep.restore();
+    Edge.is("two LINES", 2, keep.count(0));
+    Edge.is("DATED", 0, keep.lineIs(1, 4));
+  }
+
   @Says(at = "P33", text = "NONE: there is none.")
   static void restoreNone() {
     BoardKeep keep = Edge.aged(0, 5);

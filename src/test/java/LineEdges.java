@@ -500,6 +500,12 @@ final class LineEdges {
     Edge.is("m by now", 3, keep.as(0, 1));
     keep.become(0, 40);
     Edge.is("KIND by now", 0, keep.as(0, 4));
+    BoardKeep ten = Edge.lines(0, 11, 22, 33, 44, 55, 66, 7, 18, 29);
+    int[] m = {0, 1, 2, 3, 4, 5, 6, 7, 8, 9};
+    for (int line = 0; line < 10; line++) {
+      Edge.is("m of LINE " + line, m[line], ten.as(line, 0));
+      Edge.is("LINE " + line + " as its own KIND", m[line], ten.as(line, ten.lineIs(line, 0)));
+    }
   }
 
   @Says(at = "P5", text = "BEYOND.")
@@ -535,6 +541,7 @@ final class LineEdges {
     Edge.is("was without", 0, keep.photo(1, 1));
     Edge.is("was with", 1, keep.photo(1, 1));
     Edge.is("the other", 0, keep.lineIs(0, 5));
+    Edge.is("the other was without", 0, keep.photo(0, 0));
     Edge.is("was with", 1, keep.photo(1, 0));
     Edge.is("is without", 0, keep.lineIs(1, 5));
   }

@@ -4,7 +4,7 @@ import java.util.Random;
 /** Long runs of drawn calls, each answer held against BoardModel's. The seed of each run is its number. */
 public final class ModelTest {
   private static final int RUNS = 12000;
-  private static final int MOST_CALLS = 500;
+  private static final int MOST_CALLS = 490;
   private static final String[] CALLS = {
     "write", "lineIs", "become", "as", "photo", "wipe", "pen", "spirit", "feed", "text", "untell", "law", "days", "loose", "seed",
     "free", "of", "room", "when", "clears", "parts", "odds", "fits", "voice", "body", "sheet", "put", "move", "dates", "judge",
@@ -26,6 +26,7 @@ public final class ModelTest {
 
   public static void main(String[] args) {
     Due due = new Due("ModelTest");
+    due.watch();
     for (int run = 0; run < RUNS; run++) {
       new ModelTest(run).go(due, run);
     }

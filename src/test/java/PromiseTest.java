@@ -5,6 +5,7 @@ public final class PromiseTest {
   private static final Due DUE = new Due("PromiseTest");
 
   public static void main(String[] args) {
+    DUE.watch();
     promise1New();
     promise2Write();
     promise3LineIs();

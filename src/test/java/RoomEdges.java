@@ -90,6 +90,21 @@ final class RoomEdges {
     Edge.is("the other one", 1, keep.when(6, 0));
     Edge.is("where it is", 6, keep.when(6, 1));
     Edge.is("both", 7, keep.when(12, 0));
+    BoardKeep left = wide(20, 6, 0, 606);
+    Edge.is("6 by the ARROW", 1, left.when(6, 0));
+    Edge.is("one more", 7, left.when(7, 0));
+    BoardKeep right = wide(0, 6, 20, 606);
+    Edge.is("6 by the ARROW, from 6 on", 6, right.when(6, 1));
+    Edge.is("one more", 7, right.when(7, 0));
+    BoardKeep apart = wide(41, 101);
+    Edge.is("of 5, not of 1", 2, apart.when(5, 1));
+    Edge.is("of 1", 0, apart.when(1, 1));
+    // LOSS now is 14; the other one MAY GO on the next DAY, with a LOSS of 7.
+    BoardKeep early = wide(29, 6, 0, 606);
+    early.photo(1, 1);
+    early.days(6);
+    Edge.is("on that DAY", 0, early.when(6, 0));
+    Edge.is("and not on the next one", 0, early.when(6, 1));
     // LOSS now is 35 and 50, on DAY 7 it is 17 and 15.
     BoardKeep then = wide(30, 6, 0, 606);
     then.photo(0, 1);
@@ -131,6 +146,11 @@ final class RoomEdges {
     Edge.is("GONE at the begin of this DAY", 14, keep.clears(1));
     keep.wipe(0);
     Edge.is("GONE", 14, keep.clears(0));
+    BoardKeep stain = wide(60, 2);
+    Edge.is("without SPIRIT", 3, stain.clears(90));
+    stain.spirit(1);
+    Edge.is("with SPIRIT, too early", 3, stain.clears(7));
+    Edge.is("with SPIRIT", 0, stain.clears(8));
   }
 
   private static int parts(BoardKeep keep, int... wants) {
@@ -222,8 +242,9 @@ final class RoomEdges {
     Edge.is("never", Due.NONE, fits(keep, 0, 0, 0, 0));
     Edge.is("not this way", Due.NONE, fits(keep, 1, 0));
     Edge.is("nobody comes", Due.NONE, fits(keep, 1, 1, 1, 1, 1));
-    Edge.is("those that aren't told don't matter", 0, fits(keep, 1));
-    Edge.is("none told", 0, fits(keep));
+    Edge.is("those that aren't told don't matter", 0, fits(wide(20, 1, 0, 101), 1));
+    Edge.is("be they TAKEN or not", 0, fits(wide(20, 1, 0, 1101), 1, 0, 0, 0, 0, 0, 0, 0, 0, 0, 0));
+    Edge.is("none told", 0, fits(wide(20, 12)));
     Edge.is("2 is neither", Due.NONE, fits(keep, 2));
     Edge.is("-1 is neither", Due.NONE, fits(keep, -1));
   }
@@ -316,6 +337,10 @@ final class RoomEdges {
     Edge.is("n 12, LINES", 0, empty.room(12, 2));
     BoardKeep last = wide(41, 11);
     Edge.is("n 1, first", 11, last.room(1, 1));
+    BoardKeep ten = Edge.full();
+    ten.days(7);
+    Edge.is("ten LINES", 1023, ten.room(12, 2));
+    Edge.is("their LOSS", 150, ten.room(12, 0));
   }
 
   @Says(at = "P19", text = "BEYOND.")
@@ -484,6 +509,8 @@ final class RoomEdges {
     Edge.is("thirteen", Due.NONE, keep.fits(1));
     keep.sheet(1, 8, 24);
     Edge.is("twenty-four", Due.NONE, keep.fits(1));
+    keep.sheet(2, 8, 13);
+    Edge.is("thirteen of another", Due.NONE, keep.fits(2));
     keep.sheet(1, 0, 12);
     Edge.is("missing again", Due.NONE, keep.fits(1));
     keep.write(41, 1101, 0, 0);
@@ -491,6 +518,6 @@ final class RoomEdges {
     Edge.is("not by 90", Due.NONE, keep.fits(1));
     keep.become(0, 19);
     Edge.is("by 64", 64, keep.fits(1));
-    Edge.is("told", 5, keep.told(2));
+    Edge.is("told", 6, keep.told(2));
   }
 }

@@ -110,6 +110,15 @@ final class SheetEdges {
       Edge.is("in " + row[0] + " bits is one of them", 1, keep.dates(0));
       Edge.is(row[1] + " in " + row[0] + " bits", row[2], keep.lineIs(0, 4));
     }
+    BoardKeep each = tenLate();
+    each.sheet(0, 8, 1);
+    each.sheet(1, 16, 1);
+    each.sheet(2, 32, 1);
+    for (int sheet = 0; sheet < 3; sheet++) {
+      each.put(sheet, 0, 257 + (sheet == 2 ? 0 : 65536));
+      each.dates(sheet);
+      Edge.is("each by its own bits, SHEET " + sheet, sheet == 0 ? 1 : 257, each.lineIs(0, 4));
+    }
     BoardKeep keep = tenLate();
     keep.sheet(0, 32, 1);
     keep.put(0, 0, 65536);

@@ -36,6 +36,7 @@ final class TextEdges {
     Edge.is("no more", Due.FULL, keep.feed('1', 1));
     Edge.is("sixty are read", 1, keep.text(0));
     Edge.is("the last is, too", 41, keep.law(0, 0, 0, 0));
+    worth("!b" + times("+1", 29), 0, 0, 0, 30);
     worth("1+2*(1+2*(1+2*(1+2*(1+2*(1+2*3)))))", 0, 0, 0, 255);
     worth("b|m&p<b+m*(b|m&p<b+m*(b|m&p<b+m*(b|m&p<b+m*(b|m&p<b+m))))", 0, 1, 0, 1);
   }
@@ -286,6 +287,12 @@ final class TextEdges {
     keep.photo(0, 1);
     Due.text(keep, 0, "b*9-m+p");
     Edge.is("b, m, p of a LINE", 74 * 9 - 4 + 1, keep.lineIs(0, 9));
+    BoardKeep two = Edge.lines(3, 7);
+    two.photo(1, 1);
+    Due.text(two, 0, "b*10+m*100+p");
+    Edge.is("those of one LINE", 530 + 300, two.lineIs(0, 9));
+    Due.text(two, 0, "b+m*100+p");
+    Edge.is("those of another", 57 + 700 + 1, two.lineIs(1, 9));
   }
 
   @Says(at = "T2", text = "without a TEXT b, if there is no PHOTO, b by 2 (cut), if p is 1.")
@@ -402,6 +409,22 @@ final class TextEdges {
     Edge.is("its own", 9, keep.law(1, 1, 1, 9));
     Edge.is("NAMES of the other USE", -10, Due.text(keep, 0, "w"));
     Edge.is("NAMES of the other USE", -12, Due.text(keep, 1, "w+b"));
+  }
+
+  @Says(at = "P11", text = "in place of one ahead")
+  static void textInPlace() {
+    BoardKeep keep = new BoardKeep();
+    String sixty = "!b" + times("+1", 29);
+    for (int time = 0; time < 3; time++) {
+      Edge.is("sixty bytes", 1, Due.text(keep, 0, sixty));
+      Edge.is("are it, whole", 30, keep.law(0, 0, 0, 0));
+      Edge.is("a FAULT at the last of sixty", -69, Due.text(keep, 0, sixty.substring(0, 59) + "x"));
+      Edge.is("leaves it", 30, keep.law(0, 0, 0, 0));
+    }
+    Edge.is("one byte", 1, Due.text(keep, 0, "7"));
+    Edge.is("is it", 7, keep.law(0, 0, 0, 0));
+    Edge.is("sixty again", 1, Due.text(keep, 0, sixty));
+    Edge.is("are it", 30, keep.law(0, 0, 0, 0));
   }
 
   @Says(at = "P11", text = "BEYOND (THE TAPE stays).")

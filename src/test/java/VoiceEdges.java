@@ -158,6 +158,10 @@ final class VoiceEdges {
     says(43, STAYS, 5, 8, 51, 12, 11, 50, 20, 10);
     // 0 - 1 is -1
     says(41, STAYS, 3, -2, 51, 12, 11, 50, 20, 10);
+    BoardKeep keep = Edge.lines(40, 0, 0, 0, 0, 40);
+    // 2 * 3 * (5 - 4) is 6; 2 * 3 * (5 + 5 - 4) is 36
+    Edge.is("k 0", 6, keep.voice(0, STAYS, 5));
+    Edge.is("k 5", 36 ^ 5, keep.voice(5, STAYS, 5));
   }
 
   @Says(at = "T4", text = "Boxed: 60 smears: super.smears(x + 1).")
